@@ -1,0 +1,82 @@
+import java.util.Objects;
+
+/** What the tests share: it counts and prints what is not as due. */
+final class Check {
+    /** A call that answers a number (a boolean counts 1 or 0). */
+    interface Call {
+        double answer();
+    }
+
+    /** A call that answers nothing. */
+    interface Deed {
+        void run();
+    }
+
+    private static final int MOST_LINES = 20;
+    private final String test;
+    private int asked = 0;
+    private int wrong = 0;
+
+    Check(String test) {
+        this.test = test;
+    }
+
+    void same(String what, Object want, Object got) {
+        asked++;
+        if (!Objects.equals(want, got)) {
+            wrong++;
+            if (wrong <= MOST_LINES) {
+                System.out.println(test + ": " + what + ": due is " + want + ", answered " + got);
+            }
+        }
+    }
+
+    void same(String what, int want, int got) {
+        same(what, (Object) want, (Object) got);
+    }
+
+    void isTrue(String what, boolean is) {
+        same(what, (Object) true, (Object) is);
+    }
+
+    void index(String what, Deed deed) {
+        same(what, (Object) "IndexOutOfBoundsException", thrownBy(deed));
+    }
+
+    void argument(String what, Deed deed) {
+        same(what, (Object) "IllegalArgumentException", thrownBy(deed));
+    }
+
+    void state(String what, Deed deed) {
+        same(what, (Object) "IllegalStateException", thrownBy(deed));
+    }
+
+    /** The simple name of the exception's very class (the machine's own ones are other classes), or null. */
+    static String thrownBy(Deed deed) {
+        try {
+            deed.run();
+            return null;
+        } catch (RuntimeException e) {
+            return e.getClass().getSimpleName();
+        }
+    }
+
+    /** The answer of a call as a text, or the exception that it throws. */
+    static String told(Call call) {
+        try {
+            return String.valueOf(call.answer());
+        } catch (RuntimeException e) {
+            return "throws " + e.getClass().getSimpleName();
+        }
+    }
+
+    boolean isAnyWrong() {
+        return wrong > 0;
+    }
+
+    /** Ends the program, with 1 if anything was wrong or nothing was asked. */
+    void close() {
+        System.out.println(test + ": " + asked + " asked, " + wrong + " wrong");
+        System.exit(wrong > 0 || asked == 0 ? 1 : 0);
+    }
+}
