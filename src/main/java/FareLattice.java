@@ -10,6 +10,7 @@ public final class FareLattice {
     public static final int NONE = -1;
 
     private static final int WAITS_NO_MORE = -2;
+    private static final int NEVER = 2147483647;
 
     private static final int AIRPORTS = 6;
     private static final int CARRIERS = 3;
@@ -60,6 +61,7 @@ public final class FareLattice {
     private final Pricing pricing = new Pricing();
     private final ArrayList<Booking> bookings = new ArrayList<Booking>();
     private final ArrayList<Wish> wishes = new ArrayList<Wish>();
+    private final ArrayList<Leg> delayedNow = new ArrayList<Leg>();
     private final ArrayList<Booking> deniedNow = new ArrayList<Booking>();
     private final Detour detour = new Detour();
     private final int[] memberPoints = new int[MEMBERS];
@@ -91,7 +93,6 @@ public final class FareLattice {
             this.hour = hour;
             this.length = length;
             this.seats = seats;
-            this.firstHour = hour;
             for (int i = 0; i < BUCKETS; i++) {
                 limits[i] = seats;
             }
@@ -101,15 +102,15 @@ public final class FareLattice {
             return day < 0 || day >= DAYS ? null : legs[day];
         }
 
-        /** No delay is as long as a day, so in each hour at most one leg of a flight can depart. */
-        Leg departingAt(int time) {
-            Leg leg = on(Math.floorDiv(time - firstHour, DAY_HOURS));
-            return leg != null && !leg.isCancelled && leg.departs == time ? leg : null;
+        /** The lowest day whose leg can depart at that hour or later, as no delay is as long as a day. */
+        int dayToLookFrom(int time) {
+            return Math.max(0, Math.floorDiv(time - firstHour, DAY_HOURS));
         }
 
-        /** The lowest day whose leg may depart at that hour or later, whatever delay it has. */
-        int dayToLookFrom(int time) {
-            return Math.max(0, Math.floorDiv(time - firstHour - MOST_DELAY, DAY_HOURS));
+        /** For the same reason at most one leg of a flight departs in an hour. */
+        Leg departingAt(int time) {
+            Leg leg = on(dayToLookFrom(time));
+            return leg != null && !leg.isCancelled && leg.departs == time ? leg : null;
         }
     }
 
@@ -374,7 +375,6 @@ public final class FareLattice {
         Coupon copied() {
             Coupon copy = new Coupon(leg, bucket, stretch, share, tax);
             copy.state = state;
-            copy.isDenied = isDenied;
             return copy;
         }
 
@@ -557,25 +557,19 @@ public final class FareLattice {
             return second == null ? 1 : 2;
         }
 
-        /** Takes the way if it is better; from then on none that arrives later is of use. */
+        /**
+         * Takes the way if it is better; from then on none that arrives later is of use. Ways are offered
+         * by rising numbers of their legs, so of two that are as early the later one needs fewer legs.
+         */
         void offer(Leg one, Leg two) {
             int arrives = two == null ? one.arrives : two.arrives;
-            if (arrives > latestArrival || arrives == latestArrival && !isBeforeOfAsEarly(one, two)) {
+            boolean hasFewerLegs = two == null && second != null;
+            if (arrives > latestArrival || arrives == latestArrival && first != null && !hasFewerLegs) {
                 return;
             }
             first = one;
             second = two;
             latestArrival = arrives;
-        }
-
-        private boolean isBeforeOfAsEarly(Leg one, Leg two) {
-            if (first == null) {
-                return true;
-            }
-            if (two == null || second == null) {
-                return two == null && (second != null || one.number < first.number);
-            }
-            return one == first ? two.number < second.number : one.number < first.number;
         }
     }
 
@@ -755,23 +749,23 @@ public final class FareLattice {
         Leg pushed = findLeg(leg);
         needRange(hours, 1, MOST_DELAY);
         needState(pushed.isAhead(now));
-        ArrayList<Leg> touched = new ArrayList<Leg>();
+        delayedNow.clear();
         int more = hours;
         for (int links = 0; links <= MOST_LINKS; links++) {
-            addOnce(touched, pushed);
+            addOnce(delayedNow, pushed);
             if (pushed.delayed + more > MOST_DELAY) {
                 withdraw(pushed);
-                return touched.size();
+                return delayedNow.size();
             }
             pushed.push(more);
             int ready = pushed.arrives + CONNECTION_HOURS;
             pushed = pushed.onwardLeg();
             if (pushed == null || !pushed.isAhead(now) || pushed.departs >= ready) {
-                return touched.size();
+                return delayedNow.size();
             }
             more = ready - pushed.departs;
         }
-        return touched.size();
+        return delayedNow.size();
     }
 
     /** Repairs all journeys; returns 100 * the coupons that became MOVED + those that became VOID. */
@@ -1095,8 +1089,8 @@ public final class FareLattice {
         if (!leg.isAhead(now)) {
             return 0;
         }
-        int least = Integer.MAX_VALUE;
-        for (int i = 0; i <= bucket && i < BUCKETS; i++) {
+        int least = leg.flight.limits[0] - soldSeats(leg, 0);
+        for (int i = 1; i <= bucket && i < BUCKETS; i++) {
             least = Math.min(least, leg.flight.limits[i] - soldSeats(leg, i));
         }
         return Math.max(0, least);
@@ -1161,8 +1155,7 @@ public final class FareLattice {
                 share = amount * leg.flight.length / length;
             }
             left -= share;
-            int bucket = pricing.best[stretch].bucket;
-            booking.coupons.add(new Coupon(leg, bucket, stretch, share, taxAt(legs, i)));
+            booking.coupons.add(new Coupon(leg, pricing.best[stretch].bucket, stretch, share, taxAt(legs, i)));
         }
     }
 
@@ -1305,7 +1298,7 @@ public final class FareLattice {
         if (ahead != null) {
             earliest = Math.max(earliest, ahead.arrives + CONNECTION_HOURS);
         }
-        detour.begin(behind == null ? Integer.MAX_VALUE : behind.departs - CONNECTION_HOURS);
+        detour.begin(behind == null ? NEVER : behind.departs - CONNECTION_HOURS);
         for (int f = 0; f < flights.size(); f++) {
             Flight flight = flights.get(f);
             if (flight.from != own.flight.from) {

@@ -51,14 +51,22 @@ final class Check {
         same(what, (Object) "IllegalStateException", thrownBy(deed));
     }
 
-    /** The simple name of the exception's very class (the machine's own ones are other classes), or null. */
+    /** The simple name of the exception that is thrown, or null. */
     static String thrownBy(Deed deed) {
         try {
             deed.run();
             return null;
         } catch (RuntimeException e) {
-            return e.getClass().getSimpleName();
+            return nameOf(e);
         }
+    }
+
+    /** The machine's own exceptions are of other classes; what the library throws does not begin in our classes. */
+    private static String nameOf(RuntimeException e) {
+        StackTraceElement[] trace = e.getStackTrace();
+        String origin = trace.length == 0 ? "" : trace[0].getClassName();
+        boolean isOurs = origin.startsWith("FareLattice") || origin.startsWith("Model");
+        return e.getClass().getSimpleName() + (isOurs ? "" : " of the library");
     }
 
     /** The answer of a call as a text, or the exception that it throws. */
@@ -66,7 +74,7 @@ final class Check {
         try {
             return String.valueOf(call.answer());
         } catch (RuntimeException e) {
-            return "throws " + e.getClass().getSimpleName();
+            return "throws " + nameOf(e);
         }
     }
 
