@@ -127,21 +127,24 @@ public final class DraftTest {
         for (int i = 0; i < 4; i++) {
             x.fare(-1, i, i + 1, 0, 100);
         }
+        for (int i = 0; i < 4; i++) {
+            x.fare(-1, i, 5, 0, 1);
+        }
         Networks.draft(x, legs);
-        price(x, "four by themselves", 400, 1);
+        price(x, "four by themselves, with no fare to elsewhere", 400, 1);
         x.fare(-1, 1, 4, 0, 290);
         price(x, "one and three", 390, 1);
         x.fare(-1, 0, 3, 0, 280);
         price(x, "three and one", 380, 1);
         x.fare(-1, 1, 3, 0, 150);
         price(x, "one, two and one", 350, 1);
-        CHECK.same("the second stretch", 62, x.stretch(1, 1));
+        CHECK.same("the second stretch", 102, x.stretch(1, 1));
         x.fare(-1, 0, 2, 0, 170);
         x.fare(-1, 2, 4, 0, 170);
         price(x, "two and two", 340, 1);
         x.fare(-1, 0, 4, 0, 339);
         price(x, "all four", 339, 1);
-        CHECK.same("all four as one", 94, x.stretch(1, 0));
+        CHECK.same("all four as one", 134, x.stretch(1, 0));
     }
 
     private static void ties() {
