@@ -16,6 +16,7 @@ final class Check {
     private final String test;
     private int asked = 0;
     private int wrong = 0;
+    private String sentence = "";
 
     Check(String test) {
         this.test = test;
@@ -26,7 +27,8 @@ final class Check {
         if (!Objects.equals(want, got)) {
             wrong++;
             if (wrong <= MOST_LINES) {
-                System.out.println(test + ": " + what + ": due is " + want + ", answered " + got);
+                String where = sentence.isEmpty() ? "" : "\"" + sentence + "\": ";
+                System.out.println(test + ": " + where + what + ": due is " + want + ", answered " + got);
             }
         }
     }
@@ -76,6 +78,15 @@ final class Check {
         } catch (RuntimeException e) {
             return "throws " + nameOf(e);
         }
+    }
+
+    int asked() {
+        return asked;
+    }
+
+    /** What is asked from now on is asked of this sentence; of none if it is empty. */
+    void within(String quoted) {
+        sentence = quoted;
     }
 
     boolean isAnyWrong() {

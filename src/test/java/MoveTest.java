@@ -5,18 +5,12 @@ public final class MoveTest {
     /** The flights 0 and 1, once each on the day 2 from 0 to 1 at 8 and from 1 to 2 at 20; with fares for each. */
     private static FareLattice twoLegs() {
         FareLattice x = new FareLattice();
-        once(x, 0, 1, 8, 2, 9, 2);
-        once(x, 1, 2, 20, 2, 9, 2);
+        Networks.once(x, 0, 1, 8, 2, 9, 2);
+        Networks.once(x, 1, 2, 20, 2, 9, 2);
         x.fare(-1, 0, 1, 0, 10);
         x.fare(-1, 1, 2, 0, 20);
         x.fare(-1, 0, 2, 0, 90);
         return x;
-    }
-
-    private static int once(FareLattice x, int from, int to, int hour, int length, int seats, int day) {
-        int flight = x.flight(0, from, to, hour, length, seats);
-        x.days(flight, day, day, 127);
-        return 100 * flight + day;
     }
 
     /** Cancels the first leg of the booking, repairs, and tells to which leg it was moved; -1 if it is void. */
@@ -29,12 +23,12 @@ public final class MoveTest {
     private static void notEarlierThanNowAndOne() {
         FareLattice x = twoLegs();
         int booking = Networks.ticketed(x, 1, -1, 2);
-        int early = once(x, 0, 1, 5, 2, 9, 1);
+        int early = Networks.once(x, 0, 1, 5, 2, 9, 1);
         x.pass(28);
         CHECK.same("now and 1 hour, ahead of its own departure", early, movedTo(x, booking));
         FareLattice y = twoLegs();
         int other = Networks.ticketed(y, 1, -1, 2);
-        once(y, 0, 1, 5, 2, 9, 1);
+        Networks.once(y, 0, 1, 5, 2, 9, 1);
         y.pass(29);
         CHECK.same("departed", -1, movedTo(y, other));
     }
@@ -42,29 +36,29 @@ public final class MoveTest {
     private static void atMost48HoursLater() {
         FareLattice x = twoLegs();
         int booking = Networks.ticketed(x, 1, -1, 2);
-        once(x, 0, 1, 9, 2, 9, 4);
+        Networks.once(x, 0, 1, 9, 2, 9, 4);
         CHECK.same("49 hours", -1, movedTo(x, booking));
         FareLattice y = twoLegs();
         int other = Networks.ticketed(y, 1, -1, 2);
-        int late = once(y, 0, 1, 8, 2, 9, 4);
+        int late = Networks.once(y, 0, 1, 8, 2, 9, 4);
         CHECK.same("48 hours", late, movedTo(y, other));
         FareLattice z = twoLegs();
         int delayed = Networks.ticketed(z, 1, -1, 2);
-        int later = once(z, 0, 1, 9, 2, 9, 4);
+        int later = Networks.once(z, 0, 1, 9, 2, 9, 4);
         z.delay(2, 1);
         CHECK.same("48 hours behind the departure with its delay", later, movedTo(z, delayed));
         FareLattice v = twoLegs();
         int first = Networks.ticketed(v, 1, -1, 2);
-        int way = once(v, 0, 3, 8, 2, 9, 4);
-        once(v, 3, 1, 20, 2, 9, 6);
+        int way = Networks.once(v, 0, 3, 8, 2, 9, 4);
+        Networks.once(v, 3, 1, 20, 2, 9, 6);
         CHECK.same("the second leg may be later", way, movedTo(v, first));
     }
 
     private static void behindTheLegAhead() {
         FareLattice x = twoLegs();
         int booking = Networks.ticketed(x, 1, -1, 2, 102);
-        once(x, 1, 2, 10, 2, 9, 2);
-        int next = once(x, 1, 2, 11, 2, 9, 2);
+        Networks.once(x, 1, 2, 10, 2, 9, 2);
+        int next = Networks.once(x, 1, 2, 11, 2, 9, 2);
         x.cancelLeg(102);
         CHECK.same("moved", 100, x.repair());
         CHECK.same("1 hour behind the arrival", next, x.coupon(booking, 2) / 100);
@@ -73,21 +67,21 @@ public final class MoveTest {
     private static void aheadOfTheLegBehind() {
         FareLattice x = twoLegs();
         int booking = Networks.ticketed(x, 1, -1, 2, 102);
-        once(x, 0, 1, 18, 2, 9, 2);
+        Networks.once(x, 0, 1, 18, 2, 9, 2);
         CHECK.same("it would arrive as the leg behind departs", -1, movedTo(x, booking));
         FareLattice y = twoLegs();
         int other = Networks.ticketed(y, 1, -1, 2, 102);
-        int late = once(y, 0, 1, 17, 2, 9, 2);
+        int late = Networks.once(y, 0, 1, 17, 2, 9, 2);
         CHECK.same("1 hour ahead of it", late, movedTo(y, other));
         FareLattice z = twoLegs();
         int third = Networks.ticketed(z, 1, -1, 2, 102);
-        int far = once(z, 0, 1, 18, 2, 9, 2);
+        int far = Networks.once(z, 0, 1, 18, 2, 9, 2);
         z.delay(102, 1);
         CHECK.same("1 hour ahead of it, with its delay", far, movedTo(z, third));
         FareLattice v = twoLegs();
         int fourth = Networks.ticketed(v, 1, -1, 2, 102);
-        once(v, 0, 3, 5, 2, 9, 2);
-        once(v, 3, 1, 18, 2, 9, 2);
+        Networks.once(v, 0, 3, 5, 2, 9, 2);
+        Networks.once(v, 3, 1, 18, 2, 9, 2);
         CHECK.same("two legs arrive too late as well", -1, movedTo(v, fourth));
     }
 
@@ -96,7 +90,7 @@ public final class MoveTest {
         int booking = Networks.ticketed(x, 1, -1, 2, 102);
         x.cancelLeg(2);
         CHECK.same("the first one is void", 1, x.repair());
-        int soon = once(x, 1, 2, 3, 2, 9, 1);
+        int soon = Networks.once(x, 1, 2, 3, 2, 9, 1);
         x.cancelLeg(102);
         CHECK.same("the second one is moved", 100, x.repair());
         CHECK.same("nothing is ahead of it", soon, x.coupon(booking, 2) / 100);
@@ -104,12 +98,12 @@ public final class MoveTest {
         int other = Networks.ticketed(y, 1, -1, 2, 102);
         y.cancelLeg(102);
         CHECK.same("the second one is void", 1, y.repair());
-        int late = once(y, 0, 1, 8, 2, 9, 4);
+        int late = Networks.once(y, 0, 1, 8, 2, 9, 4);
         CHECK.same("nothing is behind the first one", late, movedTo(y, other));
         FareLattice z = twoLegs();
         int third = Networks.ticketed(z, 1, -1, 2, 102);
-        once(z, 0, 1, 12, 2, 9, 2);
-        once(z, 1, 2, 14, 2, 9, 2);
+        Networks.once(z, 0, 1, 12, 2, 9, 2);
+        Networks.once(z, 1, 2, 14, 2, 9, 2);
         z.cancelLeg(2);
         z.repair();
         z.cancelLeg(102);
@@ -120,9 +114,9 @@ public final class MoveTest {
     private static void behindSomeThatAreMovedOrVoid() {
         FareLattice x = twoLegs();
         int booking = Networks.ticketed(x, 1, -1, 2, 102);
-        int late = once(x, 1, 2, 22, 1, 9, 2);
-        once(x, 0, 1, 20, 1, 9, 2);
-        int until = once(x, 0, 1, 19, 2, 9, 2);
+        int late = Networks.once(x, 1, 2, 22, 1, 9, 2);
+        Networks.once(x, 0, 1, 20, 1, 9, 2);
+        int until = Networks.once(x, 0, 1, 19, 2, 9, 2);
         x.cancelLeg(102);
         CHECK.same("the second one is moved", 100, x.repair());
         CHECK.same("to the later one", 100 * late, x.coupon(booking, 2));
@@ -130,14 +124,14 @@ public final class MoveTest {
         CHECK.same("1 hour ahead of the one behind that which is moved", until, movedTo(x, booking));
         FareLattice y = new FareLattice();
         for (int i = 0; i < 3; i++) {
-            once(y, i, i + 1, 6 * i, 2, 9, 2);
+            Networks.once(y, i, i + 1, 6 * i, 2, 9, 2);
         }
         y.fare(-1, 0, 3, 0, 10);
         int other = Networks.ticketed(y, 1, -1, 2, 102, 202);
         y.cancelLeg(102);
         CHECK.same("the one in the middle is void", 1, y.repair());
-        once(y, 2, 3, 2, 1, 9, 2);
-        int enough = once(y, 2, 3, 3, 10, 9, 2);
+        Networks.once(y, 2, 3, 2, 1, 9, 2);
+        int enough = Networks.once(y, 2, 3, 3, 10, 9, 2);
         y.cancelLeg(202);
         CHECK.same("the last one is moved", 100, y.repair());
         CHECK.same("1 hour behind the one ahead of that which is void", 100 * enough, y.coupon(other, 3));
@@ -150,10 +144,10 @@ public final class MoveTest {
         FareLattice x = new FareLattice();
         x.flight(0, 0, 1, 20, 2, 9);
         x.days(0, 0, 0, 127);
-        once(x, 0, 1, 3, 2, 9, 1);
-        once(x, 1, 2, 22, 2, 9, 0);
-        once(x, 1, 2, 8, 2, 9, 1);
-        once(x, 0, 3, 1, 1, 9, 1);
+        Networks.once(x, 0, 1, 3, 2, 9, 1);
+        Networks.once(x, 1, 2, 22, 2, 9, 0);
+        Networks.once(x, 1, 2, 8, 2, 9, 1);
+        Networks.once(x, 0, 3, 1, 1, 9, 1);
         x.fare(-1, 0, 1, 0, 10);
         x.fare(-1, 0, 2, 0, 10);
         int booking = Networks.ticketed(x, 1, -1, 101);
@@ -172,9 +166,9 @@ public final class MoveTest {
 
     private static void secondLegOfTheLowestFlight() {
         FareLattice x = new FareLattice();
-        once(x, 3, 1, 14, 2, 9, 2);
-        once(x, 0, 1, 8, 2, 9, 2);
-        once(x, 0, 3, 10, 2, 9, 2);
+        Networks.once(x, 3, 1, 14, 2, 9, 2);
+        Networks.once(x, 0, 1, 8, 2, 9, 2);
+        Networks.once(x, 0, 3, 10, 2, 9, 2);
         x.limit(0, 0, 2);
         x.fare(-1, 0, 1, 0, 10);
         int booking = Networks.ticketed(x, 2, -1, 102);
@@ -185,39 +179,39 @@ public final class MoveTest {
     private static void theWayThatArrivesFirst() {
         FareLattice x = twoLegs();
         int booking = Networks.ticketed(x, 1, -1, 2);
-        once(x, 0, 1, 9, 12, 9, 2);
-        int first = once(x, 0, 3, 10, 2, 9, 2);
-        once(x, 3, 1, 14, 6, 9, 2);
+        Networks.once(x, 0, 1, 9, 12, 9, 2);
+        int first = Networks.once(x, 0, 3, 10, 2, 9, 2);
+        Networks.once(x, 3, 1, 14, 6, 9, 2);
         CHECK.same("two legs arrive ahead of one that departs first", first, movedTo(x, booking));
         CHECK.same("both are put in", 1031, x.booking(booking));
         FareLattice y = twoLegs();
         int other = Networks.ticketed(y, 1, -1, 2);
-        once(y, 0, 3, 10, 2, 9, 2);
-        once(y, 3, 1, 14, 6, 9, 2);
-        int single = once(y, 0, 1, 9, 11, 9, 2);
+        Networks.once(y, 0, 3, 10, 2, 9, 2);
+        Networks.once(y, 3, 1, 14, 6, 9, 2);
+        int single = Networks.once(y, 0, 1, 9, 11, 9, 2);
         CHECK.same("as early with fewer legs", single, movedTo(y, other));
         FareLattice z = twoLegs();
         int third = Networks.ticketed(z, 1, -1, 2);
-        int lower = once(z, 0, 1, 12, 2, 9, 2);
-        once(z, 0, 1, 11, 3, 9, 2);
+        int lower = Networks.once(z, 0, 1, 12, 2, 9, 2);
+        Networks.once(z, 0, 1, 11, 3, 9, 2);
         CHECK.same("as early with the lower number", lower, movedTo(z, third));
     }
 
     private static void asEarlyWithTwoLegs() {
         FareLattice x = twoLegs();
         int booking = Networks.ticketed(x, 1, -1, 2);
-        once(x, 4, 1, 14, 6, 9, 2);
-        int lower = once(x, 0, 3, 11, 2, 9, 2);
-        once(x, 0, 4, 10, 2, 9, 2);
-        once(x, 3, 1, 18, 2, 9, 2);
-        int higher = once(x, 3, 1, 19, 1, 9, 2);
+        Networks.once(x, 4, 1, 14, 6, 9, 2);
+        int lower = Networks.once(x, 0, 3, 11, 2, 9, 2);
+        Networks.once(x, 0, 4, 10, 2, 9, 2);
+        Networks.once(x, 3, 1, 18, 2, 9, 2);
+        int higher = Networks.once(x, 3, 1, 19, 1, 9, 2);
         CHECK.same("the lower number of the first", lower, movedTo(x, booking));
         CHECK.same("the lower number of the second", higher - 100, x.coupon(booking, 2) / 100);
         FareLattice y = twoLegs();
         int other = Networks.ticketed(y, 1, -1, 2);
-        int early = once(y, 0, 3, 9, 2, 9, 2);
-        int late = once(y, 0, 3, 14, 2, 9, 2);
-        once(y, 3, 1, 17, 2, 9, 2);
+        int early = Networks.once(y, 0, 3, 9, 2, 9, 2);
+        int late = Networks.once(y, 0, 3, 14, 2, 9, 2);
+        Networks.once(y, 3, 1, 17, 2, 9, 2);
         CHECK.same("the same second leg, the lower first one", early, movedTo(y, other));
         CHECK.same("though both reach it", 100, late - early);
     }
@@ -225,24 +219,24 @@ public final class MoveTest {
     private static void anHourBetweenTwoLegs() {
         FareLattice x = twoLegs();
         int booking = Networks.ticketed(x, 1, -1, 2);
-        once(x, 0, 3, 10, 2, 9, 2);
-        once(x, 3, 1, 12, 2, 9, 2);
-        int enough = once(x, 3, 1, 13, 4, 9, 2);
+        Networks.once(x, 0, 3, 10, 2, 9, 2);
+        Networks.once(x, 3, 1, 12, 2, 9, 2);
+        int enough = Networks.once(x, 3, 1, 13, 4, 9, 2);
         movedTo(x, booking);
         CHECK.same("1 hour is enough, less is not", enough, x.coupon(booking, 2) / 100);
         FareLattice y = twoLegs();
         int other = Networks.ticketed(y, 1, -1, 2);
-        once(y, 0, 3, 10, 2, 9, 2);
-        once(y, 3, 4, 13, 1, 9, 2);
-        once(y, 4, 1, 15, 1, 9, 2);
+        Networks.once(y, 0, 3, 10, 2, 9, 2);
+        Networks.once(y, 3, 4, 13, 1, 9, 2);
+        Networks.once(y, 4, 1, 15, 1, 9, 2);
         CHECK.same("three legs are none", -1, movedTo(y, other));
     }
 
     private static void seatsInTheBucketZero() {
         FareLattice x = twoLegs();
         int booking = Networks.ticketed(x, 3, -1, 2);
-        int full = once(x, 0, 1, 10, 1, 9, 2);
-        int free = once(x, 0, 1, 12, 1, 9, 2);
+        int full = Networks.once(x, 0, 1, 10, 1, 9, 2);
+        int free = Networks.once(x, 0, 1, 12, 1, 9, 2);
         x.limit(full / 100, 0, 2);
         x.limit(free / 100, 0, 3);
         for (int bucket = 1; bucket < 4; bucket++) {
@@ -254,15 +248,15 @@ public final class MoveTest {
         CHECK.same("those of the old leg are not", (Object) 0.0f, (Object) x.load(2));
         FareLattice y = twoLegs();
         int other = Networks.ticketed(y, 3, -1, 2);
-        int first = once(y, 0, 3, 10, 1, 9, 2);
-        int second = once(y, 3, 1, 12, 1, 9, 2);
+        int first = Networks.once(y, 0, 3, 10, 1, 9, 2);
+        int second = Networks.once(y, 3, 1, 12, 1, 9, 2);
         y.limit(second / 100, 0, 2);
         CHECK.same("each leg needs them", -1, movedTo(y, other));
         CHECK.same("the first had them", 9, y.open(first, 0));
         FareLattice z = twoLegs();
         int third = Networks.ticketed(z, 3, -1, 2);
-        first = once(z, 0, 3, 10, 1, 9, 2);
-        second = once(z, 3, 1, 12, 1, 9, 2);
+        first = Networks.once(z, 0, 3, 10, 1, 9, 2);
+        second = Networks.once(z, 3, 1, 12, 1, 9, 2);
         z.limit(second / 100, 0, 3);
         z.limit(second / 100, 1, 0);
         CHECK.same("3 seats of the second leg in the bucket 0", first, movedTo(z, third));
@@ -271,8 +265,8 @@ public final class MoveTest {
     private static void cancelledLegsAreNoWay() {
         FareLattice x = twoLegs();
         int booking = Networks.ticketed(x, 1, -1, 2);
-        int cancelled = once(x, 0, 1, 10, 1, 9, 2);
-        int late = once(x, 0, 1, 12, 1, 9, 2);
+        int cancelled = Networks.once(x, 0, 1, 10, 1, 9, 2);
+        int late = Networks.once(x, 0, 1, 12, 1, 9, 2);
         x.cancelLeg(cancelled);
         CHECK.same("the other one", late, movedTo(x, booking));
         x.cancelLeg(late);
@@ -283,9 +277,9 @@ public final class MoveTest {
 
     private static void legsOfItsOtherCoupons() {
         FareLattice x = new FareLattice();
-        int late = once(x, 0, 1, 8, 1, 9, 2);
-        int home = once(x, 1, 0, 10, 1, 9, 2);
-        int again = once(x, 0, 1, 12, 1, 9, 2);
+        int late = Networks.once(x, 0, 1, 8, 1, 9, 2);
+        int home = Networks.once(x, 1, 0, 10, 1, 9, 2);
+        int again = Networks.once(x, 0, 1, 12, 1, 9, 2);
         x.fare(-1, 0, 1, 0, 10);
         x.fare(-1, 1, 0, 0, 10);
         int booking = Networks.ticketed(x, 1, -1, late, home, again);
@@ -303,8 +297,8 @@ public final class MoveTest {
 
     private static void itsOwnLegIsNoWay() {
         FareLattice x = new FareLattice();
-        int out = once(x, 0, 1, 8, 2, 9, 2);
-        int tight = once(x, 1, 2, 11, 2, 9, 2);
+        int out = Networks.once(x, 0, 1, 8, 2, 9, 2);
+        int tight = Networks.once(x, 1, 2, 11, 2, 9, 2);
         x.fare(-1, 0, 2, 0, 10);
         int booking = Networks.ticketed(x, 1, -1, out, tight);
         x.delay(out, 1);
@@ -314,9 +308,9 @@ public final class MoveTest {
 
     private static void backToALegThatWasLeft() {
         FareLattice x = new FareLattice();
-        int a = once(x, 0, 1, 8, 2, 9, 2);
-        int b = once(x, 1, 2, 11, 2, 9, 2);
-        int other = once(x, 1, 2, 13, 2, 9, 2);
+        int a = Networks.once(x, 0, 1, 8, 2, 9, 2);
+        int b = Networks.once(x, 1, 2, 11, 2, 9, 2);
+        int other = Networks.once(x, 1, 2, 13, 2, 9, 2);
         x.fare(-1, 0, 2, 0, 10);
         int booking = Networks.ticketed(x, 1, -1, a, b);
         x.delay(a, 1);
@@ -338,13 +332,13 @@ public final class MoveTest {
     private static void tenCoupons() {
         FareLattice x = new FareLattice();
         for (int i = 0; i < 6; i++) {
-            once(x, 0, 1, i, 1, 9, 2);
+            Networks.once(x, 0, 1, i, 1, 9, 2);
         }
-        once(x, 0, 2, 6, 1, 9, 2);
-        once(x, 2, 1, 8, 1, 9, 2);
-        once(x, 1, 3, 20, 1, 9, 2);
-        once(x, 3, 0, 20, 1, 9, 3);
-        once(x, 0, 3, 20, 1, 9, 4);
+        Networks.once(x, 0, 2, 6, 1, 9, 2);
+        Networks.once(x, 2, 1, 8, 1, 9, 2);
+        Networks.once(x, 1, 3, 20, 1, 9, 2);
+        Networks.once(x, 3, 0, 20, 1, 9, 3);
+        Networks.once(x, 0, 3, 20, 1, 9, 4);
         x.fare(-1, 0, 3, 0, 10);
         x.fare(-1, 3, 0, 0, 10);
         int[] legs = {2, 802, 903, 1004};
@@ -364,13 +358,13 @@ public final class MoveTest {
     private static void tenCouponsByTwoLegs() {
         FareLattice x = new FareLattice();
         for (int i = 0; i < 5; i++) {
-            once(x, 0, 1, i, 1, 9, 2);
+            Networks.once(x, 0, 1, i, 1, 9, 2);
         }
-        once(x, 0, 2, 6, 1, 9, 2);
-        once(x, 2, 1, 8, 1, 9, 2);
-        once(x, 1, 3, 20, 1, 9, 2);
-        once(x, 3, 0, 20, 1, 9, 3);
-        once(x, 0, 3, 20, 1, 9, 4);
+        Networks.once(x, 0, 2, 6, 1, 9, 2);
+        Networks.once(x, 2, 1, 8, 1, 9, 2);
+        Networks.once(x, 1, 3, 20, 1, 9, 2);
+        Networks.once(x, 3, 0, 20, 1, 9, 3);
+        Networks.once(x, 0, 3, 20, 1, 9, 4);
         x.fare(-1, 0, 3, 0, 10);
         x.fare(-1, 3, 0, 0, 10);
         int booking = Networks.ticketed(x, 1, -1, 2, 702, 803, 904);
@@ -386,11 +380,11 @@ public final class MoveTest {
     private static void tenCouponsAreAllowed() {
         FareLattice x = new FareLattice();
         for (int i = 0; i < 8; i++) {
-            once(x, 0, 1, i, 1, 9, 2);
+            Networks.once(x, 0, 1, i, 1, 9, 2);
         }
-        once(x, 1, 3, 20, 1, 9, 2);
-        once(x, 3, 0, 20, 1, 9, 3);
-        once(x, 0, 3, 20, 1, 9, 4);
+        Networks.once(x, 1, 3, 20, 1, 9, 2);
+        Networks.once(x, 3, 0, 20, 1, 9, 3);
+        Networks.once(x, 0, 3, 20, 1, 9, 4);
         x.fare(-1, 0, 3, 0, 10);
         x.fare(-1, 3, 0, 0, 10);
         int booking = Networks.ticketed(x, 1, -1, 2, 802, 903, 1004);
@@ -410,8 +404,8 @@ public final class MoveTest {
         FareLattice x = new FareLattice();
         x.setTax(0, 5);
         x.setTax(3, 300);
-        int own = once(x, 0, 1, 8, 2, 9, 2);
-        int behind = once(x, 1, 2, 14, 3, 9, 2);
+        int own = Networks.once(x, 0, 1, 8, 2, 9, 2);
+        int behind = Networks.once(x, 1, 2, 14, 3, 9, 2);
         x.flight(1, 0, 3, 9, 1, 9);
         x.flight(2, 3, 1, 11, 1, 9);
         x.days(2, 2, 2, 127);

@@ -15,6 +15,13 @@ final class Networks {
         return flight;
     }
 
+    /** Adds a flight of the carrier 0 that goes on one day, and answers its leg. */
+    static int once(FareLattice x, int from, int to, int hour, int length, int seats, int day) {
+        int flight = x.flight(0, from, to, hour, length, seats);
+        x.days(flight, day, day, 127);
+        return 100 * flight + day;
+    }
+
     /** Holds the legs for 72 hours and answers the booking. */
     static int held(FareLattice x, int persons, int member, int... legs) {
         draft(x, legs);
