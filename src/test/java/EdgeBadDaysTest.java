@@ -181,6 +181,7 @@ public final class EdgeBadDaysTest {
         CHECK.same("one of them has another way, one has none", 101, x.repair());
         states(x, "its other coupon is OPEN for that leg", 0, OPEN, FLOWN, VOID);
         states(x, "of the other booking none is", 1, MOVED, OPEN);
+        anotherOneThanOthersAsTheSecond();
         FareLattice y = new FareLattice();
         on2(y, 0, 1, 8, 2);
         int tight = on2(y, 1, 2, 11, 2);
@@ -197,6 +198,30 @@ public final class EdgeBadDaysTest {
         y.cancelLeg(tight);
         CHECK.same("then there is none", 1, y.repair());
         states(y, "in all", 0, OPEN, MOVED, MOVED, VOID);
+    }
+
+    /** The same, but the leg of the first coupon begins elsewhere, so that it is the second one of a way. */
+    private static void anotherOneThanOthersAsTheSecond() {
+        FareLattice x = new FareLattice();
+        int first = on2(x, 2, 1, 8, 1);
+        int home = on2(x, 1, 0, 10, 1);
+        int again = on2(x, 0, 1, 12, 1);
+        int there = on2(x, 0, 2, 13, 1);
+        x.fare(-1, 2, 1, 0, 10);
+        x.fare(-1, 1, 0, 0, 10);
+        x.fare(-1, 0, 1, 0, 10);
+        Networks.ticketed(x, 1, -1, first, home, again);
+        Networks.ticketed(x, 1, -1, again);
+        x.delay(first, 8);
+        x.pass(50);
+        x.check(0, 1);
+        x.pass(8);
+        x.cancelLeg(again);
+        CHECK.same("one of them has a way of two legs, one has none", 101, x.repair());
+        states(x, "its other coupon is OPEN for the second leg", 0, OPEN, FLOWN, VOID);
+        states(x, "of the other booking none is", 1, MOVED, OPEN, OPEN);
+        CHECK.same("by the first leg", 100 * there, x.coupon(1, 1));
+        CHECK.same("and the second one", 100 * first, x.coupon(1, 2));
     }
 
     private static void notEarlierThanNowAndOne() {
