@@ -196,15 +196,14 @@ public final class FareLattice {
     /** Looks for the cheapest way to cut a journey into stretches and to give each a fare. */
     private static final class Pricing {
         final int[] openSeats = new int[JOURNEY_LEGS * BUCKETS];
-        final Fare[] tried = new Fare[JOURNEY_LEGS];
+        final ArrayList<Fare> tried = new ArrayList<Fare>();
         final int[] triedLegs = new int[JOURNEY_LEGS];
-        final Fare[] best = new Fare[JOURNEY_LEGS];
+        final ArrayList<Fare> best = new ArrayList<Fare>();
         final int[] bestLegs = new int[JOURNEY_LEGS];
         List<Fare> fares = new ArrayList<Fare>();
         List<Leg> legs = new ArrayList<Leg>();
         int persons;
         int now;
-        int stretches;
         int amount = NONE;
 
         void begin(List<Fare> allFares, List<Leg> journey, int seats, int hour) {
@@ -212,7 +211,8 @@ public final class FareLattice {
             legs = journey;
             persons = seats;
             now = hour;
-            stretches = 0;
+            tried.clear();
+            best.clear();
             amount = NONE;
         }
 
@@ -231,7 +231,7 @@ public final class FareLattice {
         /** Ways come in the order that settles ties, so a later one has to be cheaper to be taken. */
         private static void tryStretches(Pricing p, int begin, int depth, int sum) {
             if (begin >= p.legs.size()) {
-                p.keepIfPossible(depth, sum);
+                p.keepIfPossible(sum);
                 return;
             }
             if (depth >= JOURNEY_LEGS) {
@@ -241,9 +241,10 @@ public final class FareLattice {
                 for (int i = 0; i < p.fares.size(); i++) {
                     Fare fare = p.fares.get(i);
                     if (p.isCheaper(sum + fare.amount) && p.fits(fare, begin, count)) {
-                        p.tried[depth] = fare;
+                        p.tried.add(fare);
                         p.triedLegs[depth] = count;
                         tryStretches(p, begin + count, depth + 1, sum + fare.amount);
+                        p.dropLastTried();
                     }
                 }
             }
@@ -251,15 +252,15 @@ public final class FareLattice {
 
         /** Each leg goes on with the fare of the leg ahead, or begins a stretch with any fare. */
         private static void tryLegs(Pricing p, int leg, int depth, int sum) {
-            Fare ahead = depth > 0 && depth <= JOURNEY_LEGS ? p.tried[depth - 1] : null;
+            Fare ahead = p.lastTried();
             boolean isEnded = ahead == null || p.endsAhead(ahead, leg);
             if (leg >= p.legs.size()) {
                 if (isEnded) {
-                    p.keepIfPossible(depth, sum);
+                    p.keepIfPossible(sum);
                 }
                 return;
             }
-            if (ahead != null && p.takes(ahead, leg) && p.isNear(leg)) {
+            if (ahead != null && depth > 0 && depth <= JOURNEY_LEGS && p.takes(ahead, leg) && p.isNear(leg)) {
                 p.triedLegs[depth - 1]++;
                 tryLegs(p, leg + 1, depth, sum);
                 p.triedLegs[depth - 1]--;
@@ -270,10 +271,21 @@ public final class FareLattice {
             for (int i = 0; i < p.fares.size(); i++) {
                 Fare fare = p.fares.get(i);
                 if (fare.beginsWith(p.legs.get(leg), p.now) && p.takes(fare, leg)) {
-                    p.tried[depth] = fare;
+                    p.tried.add(fare);
                     p.triedLegs[depth] = 1;
                     tryLegs(p, leg + 1, depth + 1, sum + fare.amount);
+                    p.dropLastTried();
                 }
+            }
+        }
+
+        private Fare lastTried() {
+            return tried.isEmpty() ? null : tried.get(tried.size() - 1);
+        }
+
+        private void dropLastTried() {
+            if (!tried.isEmpty()) {
+                tried.remove(tried.size() - 1);
             }
         }
 
@@ -312,43 +324,45 @@ public final class FareLattice {
             return leg > 0 && leg < legs.size() && hoursAhead(legs, leg) < DAY_HOURS;
         }
 
-        private void keepIfPossible(int count, int sum) {
-            if (!isCheaper(sum) || !areCarriersCombined(count) || !areReturnsWhole(count)) {
+        private void keepIfPossible(int sum) {
+            if (!isCheaper(sum) || !areCarriersCombined() || !areReturnsWhole()) {
                 return;
             }
             amount = sum;
-            stretches = count;
-            for (int i = 0; i < count && i < JOURNEY_LEGS; i++) {
-                best[i] = tried[i];
+            best.clear();
+            for (int i = 0; i < tried.size() && i < JOURNEY_LEGS; i++) {
+                best.add(tried.get(i));
                 bestLegs[i] = triedLegs[i];
             }
         }
 
-        private boolean areCarriersCombined(int count) {
+        private boolean areCarriersCombined() {
             boolean isAnyOwn = false;
             boolean isMixed = false;
-            for (int i = 0; i < count && i < JOURNEY_LEGS; i++) {
-                isAnyOwn = isAnyOwn || tried[i].isOwn;
-                isMixed = isMixed || tried[i].carrier != tried[0].carrier;
+            for (int i = 0; i < tried.size(); i++) {
+                isAnyOwn = isAnyOwn || tried.get(i).isOwn;
+                isMixed = isMixed || tried.get(i).carrier != tried.get(0).carrier;
             }
             return !isAnyOwn || !isMixed;
         }
 
-        private boolean areReturnsWhole(int count) {
+        private boolean areReturnsWhole() {
             int halves = 0;
-            for (int i = 0; i < count && i < JOURNEY_LEGS; i++) {
-                if (tried[i].isReturn) {
+            int stay = 0;
+            for (int i = 0; i < tried.size(); i++) {
+                Fare fare = tried.get(i);
+                if (fare.isReturn) {
                     halves++;
+                    stay = Math.max(stay, fare.stay);
                 }
             }
             if (halves == 0) {
                 return true;
             }
             int turn = triedLegs[0];
-            if (count != 2 || halves != 2 || turn < 1 || turn >= legs.size()) {
+            if (tried.size() != 2 || halves != 2 || turn < 1 || turn >= legs.size()) {
                 return false;
             }
-            int stay = Math.max(tried[0].stay, tried[1].stay);
             return legs.get(0).flight.from == legs.get(legs.size() - 1).flight.to
                 && hoursAhead(legs, turn) >= DAY_HOURS * stay;
         }
@@ -421,24 +435,34 @@ public final class FareLattice {
             }
         }
 
-        /** The place of the coupon with which the leg is still to be flown, or NONE. */
-        int placeToFly(Leg leg) {
+        /** The coupon with which the leg is still to be flown, or null. */
+        Coupon couponToFly(Leg leg) {
             for (int i = 0; i < coupons.size(); i++) {
-                if (coupons.get(i).leg == leg && coupons.get(i).isToFly()) {
+                Coupon coupon = coupons.get(i);
+                if (coupon.leg == leg && coupon.isToFly()) {
+                    return coupon;
+                }
+            }
+            return null;
+        }
+
+        boolean isCheckedFor(Leg leg) {
+            Coupon coupon = couponToFly(leg);
+            return coupon != null && coupon.state == CHECKED;
+        }
+
+        int placeOf(Coupon coupon) {
+            for (int i = 0; i < coupons.size(); i++) {
+                if (coupons.get(i) == coupon) {
                     return i;
                 }
             }
             return NONE;
         }
 
-        boolean isCheckedFor(Leg leg) {
-            int place = placeToFly(leg);
-            return place != NONE && coupons.get(place).state == CHECKED;
-        }
-
         /** The leg of the nearest coupon, going by steps of 1 or -1, that is not replaced, or null. */
-        Leg nearestLeg(int place, int step) {
-            int i = place + step;
+        Leg nearestLeg(Coupon coupon, int step) {
+            int i = placeOf(coupon) + step;
             for (int steps = 0; steps < COUPONS; steps++) {
                 if (i < 0 || i >= coupons.size()) {
                     return null;
@@ -462,9 +486,9 @@ public final class FareLattice {
         }
 
         /** Whether a coupon's leg is cancelled, or can't be reached any more from the one ahead. */
-        boolean isBroken(int place) {
-            Leg leg = coupons.get(place).leg;
-            Leg ahead = nearestLeg(place, -1);
+        boolean isBroken(Coupon coupon) {
+            Leg leg = coupon.leg;
+            Leg ahead = nearestLeg(coupon, -1);
             return leg.isCancelled || ahead != null && leg.departs < ahead.arrives + CONNECTION_HOURS;
         }
 
@@ -735,7 +759,7 @@ public final class FareLattice {
         int persons = 0;
         for (int i = 0; i < bookings.size(); i++) {
             Booking booking = bookings.get(i);
-            if (booking.state == TICKETED && booking.placeToFly(found) != NONE) {
+            if (booking.state == TICKETED && booking.couponToFly(found) != null) {
                 persons += booking.persons;
             }
         }
@@ -779,10 +803,11 @@ public final class FareLattice {
                     continue;
                 }
                 for (int place = 0; place < booking.coupons.size() && place < COUPONS; place++) {
-                    if (!booking.coupons.get(place).isToFly() || !booking.isBroken(place)) {
+                    Coupon coupon = booking.coupons.get(place);
+                    if (!coupon.isToFly() || !booking.isBroken(coupon)) {
                         continue;
                     }
-                    if (moveOn(booking, place)) {
+                    if (moveOn(booking, coupon)) {
                         moved++;
                     } else {
                         voided++;
@@ -838,8 +863,8 @@ public final class FareLattice {
     public int stretch(int persons, int stretch) throws IndexOutOfBoundsException, IllegalArgumentException {
         needRange(persons, 1, PERSONS);
         buildPrice(draft, persons);
-        needIndex(stretch, pricing.stretches);
-        return 10 * pricing.best[stretch].number + pricing.bestLegs[stretch];
+        needIndex(stretch, Math.min(pricing.best.size(), JOURNEY_LEGS));
+        return 10 * pricing.best.get(stretch).number + pricing.bestLegs[stretch];
     }
 
     /** Returns the taxes of the draft for one person. */
@@ -1105,6 +1130,9 @@ public final class FareLattice {
     }
 
     private int taxAt(List<Leg> legs, int leg) {
+        if (leg < 0 || leg >= legs.size()) {
+            return 0;
+        }
         boolean isPaid = leg == 0 || hoursAhead(legs, leg) >= STOP_HOURS;
         return isPaid ? airportTaxes[legs.get(leg).flight.from] : 0;
     }
@@ -1128,12 +1156,12 @@ public final class FareLattice {
         int seller = legs.isEmpty() ? 0 : legs.get(0).flight.carrier;
         Booking booking = new Booking(persons, member, seller, now + hours);
         int begin = 0;
-        for (int i = 0; i < pricing.stretches && i < JOURNEY_LEGS; i++) {
-            Fare fare = pricing.best[i];
+        for (int i = 0; i < pricing.best.size() && i < JOURNEY_LEGS; i++) {
+            Fare fare = pricing.best.get(i);
             int end = begin + pricing.bestLegs[i];
             booking.amounts[i] = fare.amount;
             booking.percents[i] = fare.percent;
-            addCoupons(booking, legs, i, begin, end);
+            addCoupons(booking, i, fare, legs, begin, end);
             begin = end;
         }
         bookings.add(booking);
@@ -1141,21 +1169,20 @@ public final class FareLattice {
     }
 
     /** Adds the coupons of a stretch; the amount is shared by lengths, the last leg having what is left. */
-    private void addCoupons(Booking booking, List<Leg> legs, int stretch, int begin, int end) {
+    private void addCoupons(Booking booking, int stretch, Fare fare, List<Leg> legs, int begin, int end) {
         int length = 0;
         for (int i = begin; i < end && i < legs.size(); i++) {
             length += legs.get(i).flight.length;
         }
-        int amount = booking.amounts[stretch];
-        int left = amount;
+        int left = fare.amount;
         for (int i = begin; i < end && i < legs.size(); i++) {
             Leg leg = legs.get(i);
             int share = left;
             if (i < end - 1 && length > 0) {
-                share = amount * leg.flight.length / length;
+                share = fare.amount * leg.flight.length / length;
             }
             left -= share;
-            booking.coupons.add(new Coupon(leg, pricing.best[stretch].bucket, stretch, share, taxAt(legs, i)));
+            booking.coupons.add(new Coupon(leg, fare.bucket, stretch, share, taxAt(legs, i)));
         }
     }
 
@@ -1192,16 +1219,16 @@ public final class FareLattice {
         denySurplus(leg);
         for (int i = 0; i < bookings.size(); i++) {
             Booking booking = bookings.get(i);
-            int place = booking.placeToFly(leg);
-            if (booking.state == TICKETED && place != NONE) {
-                flyOrMiss(booking, booking.coupons.get(place));
+            Coupon coupon = booking.couponToFly(leg);
+            if (booking.state == TICKETED && coupon != null) {
+                flyOrMiss(booking, coupon);
             }
         }
         for (int i = 0; i < deniedNow.size(); i++) {
             Booking booking = deniedNow.get(i);
-            int place = booking.placeToFly(leg);
-            if (place != NONE) {
-                moveOn(booking, place);
+            Coupon coupon = booking.couponToFly(leg);
+            if (coupon != null) {
+                moveOn(booking, coupon);
             }
         }
     }
@@ -1226,9 +1253,9 @@ public final class FareLattice {
     }
 
     private void deny(Booking booking, Leg leg) {
-        int place = booking.placeToFly(leg);
-        if (place != NONE) {
-            booking.coupons.get(place).isDenied = true;
+        Coupon coupon = booking.couponToFly(leg);
+        if (coupon != null) {
+            coupon.isDenied = true;
         }
         deniedNow.add(booking);
         deniedPersons += booking.persons;
@@ -1244,10 +1271,15 @@ public final class FareLattice {
         }
         coupon.state = FLOWN;
         Flight flight = coupon.leg.flight;
-        if (booking.member >= 0 && booking.member < MEMBERS) {
-            memberPoints[booking.member] += HOUR_POINTS * flight.length * booking.persons;
+        addAt(memberPoints, booking.member, HOUR_POINTS * flight.length * booking.persons);
+        addAt(earned, booking.seller * CARRIERS + flight.carrier, coupon.share * booking.persons);
+    }
+
+    /** Adds to what stands at a place of a row; who is no member has none. */
+    private static void addAt(int[] row, int place, int amount) {
+        if (place >= 0 && place < row.length) {
+            row[place] += amount;
         }
-        earned[booking.seller * CARRIERS + flight.carrier] += coupon.share * booking.persons;
     }
 
     /** Cancels a leg, and with it what is held with it. */
@@ -1255,7 +1287,7 @@ public final class FareLattice {
         leg.isCancelled = true;
         for (int i = 0; i < bookings.size(); i++) {
             Booking booking = bookings.get(i);
-            if (booking.state == HELD && booking.placeToFly(leg) != NONE) {
+            if (booking.state == HELD && booking.couponToFly(leg) != null) {
                 booking.end(CANCELLED);
             }
         }
@@ -1271,11 +1303,11 @@ public final class FareLattice {
     }
 
     /** Puts other legs in place of a coupon's, and returns true; or makes it void. */
-    private boolean moveOn(Booking booking, int place) {
-        Coupon coupon = booking.coupons.get(place);
-        findDetour(booking, place);
+    private boolean moveOn(Booking booking, Coupon coupon) {
+        findDetour(booking, coupon);
         int added = detour.legs();
-        if (added == 0 || booking.coupons.size() + added > COUPONS) {
+        int place = booking.placeOf(coupon);
+        if (added == 0 || place == NONE || booking.coupons.size() + added > COUPONS) {
             coupon.state = VOID;
             return false;
         }
@@ -1290,10 +1322,10 @@ public final class FareLattice {
     }
 
     /** Legs of a flight depart and arrive in the order of their days, as no delay is as long as a day. */
-    private void findDetour(Booking booking, int place) {
-        Leg own = booking.coupons.get(place).leg;
-        Leg ahead = booking.nearestLeg(place, -1);
-        Leg behind = booking.nearestLeg(place, 1);
+    private void findDetour(Booking booking, Coupon coupon) {
+        Leg own = coupon.leg;
+        Leg ahead = booking.nearestLeg(coupon, -1);
+        Leg behind = booking.nearestLeg(coupon, 1);
         int earliest = now + 1;
         if (ahead != null) {
             earliest = Math.max(earliest, ahead.arrives + CONNECTION_HOURS);
