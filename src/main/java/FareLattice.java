@@ -234,7 +234,7 @@ public final class FareLattice {
                 p.keepIfPossible(sum);
                 return;
             }
-            if (depth >= JOURNEY_LEGS) {
+            if (depth < 0 || depth >= JOURNEY_LEGS) {
                 return;
             }
             for (int count = 1; begin + count <= p.legs.size(); count++) {
@@ -265,7 +265,7 @@ public final class FareLattice {
                 tryLegs(p, leg + 1, depth, sum);
                 p.triedLegs[depth - 1]--;
             }
-            if (!isEnded || depth >= JOURNEY_LEGS) {
+            if (!isEnded || leg < 0 || depth < 0 || depth >= JOURNEY_LEGS) {
                 return;
             }
             for (int i = 0; i < p.fares.size(); i++) {
@@ -298,7 +298,8 @@ public final class FareLattice {
         }
 
         private boolean fits(Fare fare, int begin, int count) {
-            if (!fare.beginsWith(legs.get(begin), now) || !endsAhead(fare, begin + count)) {
+            if (begin < 0 || begin >= legs.size() || !fare.beginsWith(legs.get(begin), now)
+                    || !endsAhead(fare, begin + count)) {
                 return false;
             }
             for (int i = begin; i < begin + count; i++) {
@@ -312,7 +313,7 @@ public final class FareLattice {
         /** Whether the carrier of a fare and the seats that are open allow it on a leg. */
         private boolean takes(Fare fare, int leg) {
             int row = leg * BUCKETS + fare.bucket;
-            if (leg >= legs.size() || row < 0 || row >= openSeats.length) {
+            if (leg < 0 || leg >= legs.size() || row < 0 || row >= openSeats.length) {
                 return false;
             }
             return (fare.carrier == NONE || fare.carrier == legs.get(leg).flight.carrier)
@@ -1133,8 +1134,9 @@ public final class FareLattice {
         if (leg < 0 || leg >= legs.size()) {
             return 0;
         }
+        int airport = legs.get(leg).flight.from;
         boolean isPaid = leg == 0 || hoursAhead(legs, leg) >= STOP_HOURS;
-        return isPaid ? airportTaxes[legs.get(leg).flight.from] : 0;
+        return isPaid && airport >= 0 && airport < AIRPORTS ? airportTaxes[airport] : 0;
     }
 
     private void beginPrice(List<Leg> legs, int persons) {
@@ -1155,21 +1157,23 @@ public final class FareLattice {
     private int holdPriced(List<Leg> legs, int persons, int member, int hours) {
         int seller = legs.isEmpty() ? 0 : legs.get(0).flight.carrier;
         Booking booking = new Booking(persons, member, seller, now + hours);
-        int begin = 0;
         for (int i = 0; i < pricing.best.size() && i < JOURNEY_LEGS; i++) {
             Fare fare = pricing.best.get(i);
-            int end = begin + pricing.bestLegs[i];
             booking.amounts[i] = fare.amount;
             booking.percents[i] = fare.percent;
-            addCoupons(booking, i, fare, legs, begin, end);
-            begin = end;
+            addCoupons(booking, i, fare, legs, pricing.bestLegs[i]);
         }
         bookings.add(booking);
         return bookings.size() - 1;
     }
 
-    /** Adds the coupons of a stretch; the amount is shared by lengths, the last leg having what is left. */
-    private void addCoupons(Booking booking, int stretch, Fare fare, List<Leg> legs, int begin, int end) {
+    /**
+     * Adds the coupons of a stretch of so many legs, which begins where the coupons end so far; the amount is
+     * shared by lengths, the last leg having what is left.
+     */
+    private void addCoupons(Booking booking, int stretch, Fare fare, List<Leg> legs, int count) {
+        int begin = booking.coupons.size();
+        int end = begin + count;
         int length = 0;
         for (int i = begin; i < end && i < legs.size(); i++) {
             length += legs.get(i).flight.length;
